@@ -584,7 +584,7 @@ public final class CompanyCourt {
         return state;
     }
 
-    // A refused text may leave its traces only in what is not told yet: the draft, and the law or session behind the last.
+    // A refused text may leave traces only where nothing is told yet: in the draft, in the law or session behind the last.
     private boolean readAs(int sort) {
         switch (sort) {
             case 0: return draft.read(tape);
@@ -1662,7 +1662,7 @@ public final class CompanyCourt {
         }
     }
 
-    /** What was given of how much wrongs were worth, and what each grave would be worth where it fits (0: it does not). */
+    /** What was given of how much wrongs were worth; what each grave would be worth where it fits (else 0). */
     private static final class Given {
         final int[] wrongs = new int[MOST_GIVEN];
         final int[] bounds = new int[MOST_GIVEN];
