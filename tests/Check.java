@@ -1,9 +1,18 @@
+import java.io.IOException;
+import java.nio.file.Files;
+import java.nio.file.Path;
+import java.util.ArrayList;
+import java.util.List;
 import java.util.NoSuchElementException;
 
 /** Counts what is not as due, and feeds texts as numbers. */
 final class Check {
     static final int THROWN = Integer.MIN_VALUE;
+    private static final Path DOC = Path.of("../shared/DOC.md");
     private final String name;
+    private final List<String> sentences = new ArrayList<>();
+    private String document = null;
+    private int sentenceCalls = 1;
     private int calls = 0;
     private int wrong = 0;
 
@@ -11,11 +20,36 @@ final class Check {
         this.name = name;
     }
 
+    /** What is due from here on is what these words of the document say; a sentence needs a test, and words there are. */
+    void says(String words) throws IOException {
+        if (document == null) {
+            document = Files.readString(DOC).replaceAll("\\s+", " ");
+        }
+        ended();
+        sentences.add(words);
+        sentenceCalls = 0;
+        if (!document.contains(words)) {
+            fault("the document does not say '" + words + "'");
+        }
+    }
+
+    private void ended() {
+        if (sentenceCalls == 0) {
+            fault("nothing is tested of '" + sentences.get(sentences.size() - 1) + "'");
+        }
+    }
+
+    private void fault(String what) {
+        wrong++;
+        System.out.println(name + ": " + what);
+    }
+
     void due(String call, long got, long want) {
         calls++;
+        sentenceCalls++;
         if (got != want) {
-            wrong++;
-            System.out.println(name + ": " + call + " answered " + got + ", due is " + want);
+            String sentence = sentences.isEmpty() ? "" : " (" + sentences.get(sentences.size() - 1) + ")";
+            fault(call + " answered " + got + ", due is " + want + sentence);
         }
     }
 
@@ -24,7 +58,9 @@ final class Check {
     }
 
     void end() {
-        System.out.println(name + ": " + calls + " answers, " + wrong + " not as due");
+        ended();
+        System.out.println(name + ": " + calls + " answers, " + (sentences.isEmpty() ? "" : sentences.size()
+                + " sentences, ") + wrong + " not as due");
         if (wrong != 0 || calls == 0) {
             System.exit(1);
         }
@@ -63,6 +99,29 @@ final class Check {
     static CompanyCourt court(String county) {
         CompanyCourt court = new CompanyCourt();
         text(court, 0, county);
+        return court;
+    }
+
+    /** A county in which a wrong of grave 9 is worth 30 and any other one what its grave is; all are sentenced. */
+    static CompanyCourt owing(String county) {
+        CompanyCourt court = new CompanyCourt();
+        text(court, 1, "y:g=9?30;y:g");
+        court.law(0);
+        text(court, 0, "sm30c99;" + county);
+        for (int i = 0; i < court.count(1); i++) {
+            court.sentence(i);
+        }
+        return court;
+    }
+
+    /** So many evenings without any sin. */
+    static CompanyCourt pass(CompanyCourt court, int evenings) {
+        int sin = court.count(9);
+        court.sin(0);
+        for (int left = evenings; left > 0; left -= 30) {
+            court.years(Math.min(30, left), 1);
+        }
+        court.sin(sin);
         return court;
     }
 
