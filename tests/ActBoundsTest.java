@@ -366,11 +366,36 @@ public final class ActBoundsTest {
         due("by them", y.log(0, 1), 7);
         due("two by two of them", y.owed(0, 1) * 100 + y.owed(0, 2) * 10 + y.owed(1, 2), 222);
         due("one of the last", y.owed(0, 3) * 100 + y.owed(1, 3) * 10 + y.owed(2, 3), 111);
+        for (int people = 2; people <= 6; people++) {
+            for (int who = 0; who < people; who++) {
+                brokenBy(people, who);
+            }
+        }
         CompanyCourt all = Check.court("pl9;pl9;pl9;pl9;pl9;pl9");
         all.evening();
         due("all six", all.log(0, 1), 63);
         due("windows of all six", all.all(7), 6);
         due("owed then", all.all(5), 30);
+    }
+
+    private static void brokenBy(int people, int who) {
+        StringBuilder county = new StringBuilder();
+        for (int i = 0; i < people; i++) {
+            county.append(i == 0 ? "" : ";").append(i == who ? "pl9" : "pl8");
+        }
+        CompanyCourt x = Check.court(county.toString());
+        x.evening();
+        for (int one = 0; one < people; one++) {
+            due("lonely " + one, lonely(x, one), one == who ? 5 : 9);
+            due("in all " + one, Check.person(x, one, 3), one == who ? people - 1 : 1);
+            for (int other = 0; other < people; other++) {
+                if (one != other) {
+                    due("owed " + one + other, x.owed(one, other), one == who || other == who ? 1 : 0);
+                }
+            }
+        }
+        due("bits of " + who, x.log(0, 1), 1 << who);
+        due("owed in all", x.log(0, 2), people - 1);
     }
 
     private static void owedTo99ByWindows() throws IOException {
@@ -940,6 +965,12 @@ public final class ActBoundsTest {
         Check.text(y, 2, "e");
         due("no county", y.perform(0), NONE);
         due("no session", Check.court("p;p").perform(0), NONE);
+        CompanyCourt alone = Check.court("p;p;w");
+        Check.text(alone, 2, "e;e;e");
+        Check.text(alone, 2, "e");
+        due("its own steps alone", alone.perform(1), 1);
+        due("nothing behind them", alone.all(4), 1);
+        due("one act", alone.count(12), 1);
         says("DO: its STEPS as ACTS, up to there.");
         CompanyCourt z = Check.court("sc3;p;p;w;w");
         Check.text(z, 2, "s0;e;a01;p01;s1;e");

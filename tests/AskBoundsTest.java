@@ -423,6 +423,10 @@ public final class AskBoundsTest {
         firm("pl5b2;pl5b2;pl5b2", 109, 290, 921);
         firm("pl5b1;pl5b2;pl5b3;pl5b4", 1032);
         firm("pl5b1;pl5b1;pl5b1;pl5b6", 1099, 2909, 9219);
+        firm("pl5b1;pl5b1;pl5b1;pl5b1;pl5b9;pl5b9", 103299, 230199, 321099);
+        due("six alike", Check.court("pl5b1;pl5b1;pl5b1;pl5b1;pl5b1;pl5b1").firm(NONE), 15);
+        due("the first of six a bore", Check.court("pl5b3;pl5b1;pl5b1;pl5b1;pl5b1;pl5b1").firm(NONE), 15);
+        due("the last of six a bore", Check.court("pl5b1;pl5b1;pl5b1;pl5b1;pl5b1;pl5b3").firm(NONE), 15);
         CompanyCourt x = Check.court("pl0b0;pl0b0;pl0b0;pl0b0;pl0b0;pl0b0");
         Check.text(x, 0, "pl5b1;pl5b2");
         due("of another county", x.firm(NONE), 1);
@@ -776,6 +780,21 @@ public final class AskBoundsTest {
             due("of several the last", last.all(what), 2);
             due("of several the second", two.all(what), 1);
         }
+        String[] sides = {"pl9b0h0", "pl0b9h0", "pl0b0h9", "pl0b0h0"};
+        for (int turn = 0; turn < 4; turn++) {
+            StringBuilder county = new StringBuilder();
+            for (int i = 0; i < 4; i++) {
+                county.append(sides[(i + turn) % 4]).append(';');
+            }
+            int guilty = (7 - turn) % 4;
+            for (int i = 0; i < 4; i++) {
+                county.append(i == guilty ? "" : ";wa" + guilty + "v" + i + "g1");
+            }
+            CompanyCourt x = Check.owing(county.toString().replace(";;", ";"));
+            for (int what = 0; what < 4; what++) {
+                due("each another one, " + what, x.all(what), (what + 4 - turn) % 4);
+            }
+        }
         CompanyCourt six = Check.court("pl9b9h0;p;p;p;p;pl0b9h9");
         due("the loneliest", six.all(0), 0);
         due("the bore", six.all(1), 0);
@@ -811,11 +830,18 @@ public final class AskBoundsTest {
         y.evening();
         due("two in one evening", y.all(7), 2);
         due("of this county alone", Check.text(y, 0, "pl9;pl0") + y.all(7), 2);
+        // Two who owe nothing are lonely till both break a window, owe two, sit twice, and break the next nine later.
+        CompanyCourt z = Check.court("pl0;pl0");
+        z.sin(0);
+        for (int evening = 1; evening <= 200; evening++) {
+            z.evening();
+            due("windows at " + evening, z.all(7), evening < 10 ? 0 : 2 + 2 * ((evening - 10) / 9));
+        }
         says("FREE (6, bits), WINDOWS (7), NEVER (8, bits), PARTY (9). NONE: no COUNTY, no such what.");
-        CompanyCourt z = Check.court("p;p");
-        due("what 10", z.all(10), NONE);
+        CompanyCourt two = Check.court("p;p");
+        due("what 10", two.all(10), NONE);
         for (int n : WILD) {
-            due("what " + n, z.all(n), NONE);
+            due("what " + n, two.all(n), NONE);
         }
         for (int what = 0; what < 10; what++) {
             due("no county", new CompanyCourt().all(what), NONE);
@@ -889,11 +915,31 @@ public final class AskBoundsTest {
         due("but he is out of the circle", x.circle(5, 2), 17);
         due("person 6", x.circle(6, 0), NONE);
         due("what 3", x.circle(0, 3), NONE);
+        CompanyCourt none = Check.court("p;p");
+        due("no wrongs", none.circle(0, 0) + none.circle(0, 1) + none.circle(1, 0) + none.circle(1, 1), 0);
+        for (int who = 0; who < 6; who++) {
+            for (int whom = 0; whom < 6; whom++) {
+                if (who != whom) {
+                    circlesOf(who, whom);
+                }
+            }
+        }
         for (int n : WILD) {
             due("person " + n, x.circle(n, 0), NONE);
             due("what " + n, x.circle(0, n), NONE);
         }
         due("no county", new CompanyCourt().circle(0, 0), NONE);
+    }
+
+    /** All that is told of one wrong by one against another, who alone owe then. */
+    private static void circlesOf(int who, int whom) {
+        CompanyCourt x = Check.owing("p;p;p;p;p;p;wa" + who + "v" + whom);
+        for (int person = 0; person < 6; person++) {
+            due("wrongs of " + person, x.circle(person, 0), person == who ? 1 : 0);
+            due("wrongs against " + person, x.circle(person, 1), person == whom ? 1 : 0);
+            due("circle of " + person, x.circle(person, 2), person == who ? 1 << whom : person == whom ? 1 << who : 0);
+        }
+        due("free", x.all(6), 63 - (1 << who) - (1 << whom));
     }
 
     private static void counts() throws IOException {

@@ -810,6 +810,30 @@ public final class TextBoundsTest {
         due("the law", x.wrong(0, 4), 13);
         due("graves", x.graves(0, NONE), 9);
         due("the session", x.perform(0), 1);
+        String[] counties = {"p;p", "p;p;w", "pl9b1h5;pl1;pl4;wa2v1g9;wv2", "sm30c0;p;p;p;p;p;p;w;w;w;w;w;w;w;wa5v4g9"};
+        for (String county : counties) {
+            CompanyCourt first = new CompanyCourt();
+            setUp(first);
+            Check.text(first, COUNTY, county);
+            CompanyCourt later = new CompanyCourt();
+            setUp(later);
+            Check.text(later, COUNTY, "sm1c1;pl9b9h9;pl9b9h9;pl9b9h9;pl9b9h9;pl9b9h9;pl9b9h9;wg9;w;w;w;w;w;wa5v4;wa4v5");
+            for (int i = 0; i < 8; i++) {
+                later.sentence(i);
+            }
+            later.image();
+            later.years(29, 5);
+            later.given(7, 2, true);
+            Check.text(later, COUNTY, county);
+            new Twins(CHECK).alike("another county ahead of " + county, later, first);
+        }
+    }
+
+    private static void setUp(CompanyCourt x) {
+        Check.text(x, LAW, "y:g*2+n+d");
+        Check.text(x, SESSION, "s0;e;e;a01");
+        x.law(0);
+        x.sin(9);
     }
 
     private static CompanyCourt busy() {
