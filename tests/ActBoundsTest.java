@@ -71,7 +71,7 @@ public final class ActBoundsTest {
     }
 
     private static void worthHeld() throws IOException {
-        says("WORTH by the LAW that holds, held within 1 and the most");
+        says("EVENINGS for a WRONG: WORTH by the LAW that holds, held within 1 and the most");
         for (int most = 1; most <= 30; most++) {
             String county = "sm" + most + ";p;p;w";
             due("one less than the most", worth("y:" + (most - 1), county), Math.max(1, most - 1));
@@ -110,8 +110,8 @@ public final class ActBoundsTest {
     }
 
     private static void lettersOfWorth() throws IOException {
-        says("g GRAVE, h HARD (who did it), l LONELY, b BORE (the victim), n how many WRONGS of who did it were"
-                + " SENTENCED already, d the EVENING now");
+        says("letters: g GRAVE, h HARD (who did it), l LONELY, b BORE (the victim), n how many WRONGS of who did it"
+                + " were SENTENCED already, d the EVENING now");
         String county = "sm30;pl1b2h3;pl4b5h6;wa1v0g9";
         String[] letters = {"g", "h", "l+10", "b+10", "n+10", "d+10"};
         int[] want = {9, 6, 11, 12, 10, 10};
@@ -288,7 +288,7 @@ public final class ActBoundsTest {
     }
 
     private static void books() throws IOException {
-        says("of all two who OWE EVENINGS to one another, that with the most first");
+        says("the BOOK: of all two who OWE EVENINGS to one another, that with the most first");
         tonight("p;p;p", 999);
         tonight("p;p;wg1", 10);
         tonight("p;p;p;wg1;wa0v2g2", 290);
@@ -416,7 +416,7 @@ public final class ActBoundsTest {
     // ---- the log
 
     private static void logs() throws IOException {
-        says("how many SAT, who broke a WINDOW (bits), all EVENINGS that are OWED then");
+        says("LOG: how many SAT, who broke a WINDOW (bits), all EVENINGS that are OWED then");
         CompanyCourt x = Check.owing("p;p;p;p;p;pl9;w;wa2v3g8");
         x.evening();
         due("sat", x.log(0, 0), 4);
@@ -499,7 +499,8 @@ public final class ActBoundsTest {
     // ---- by hand
 
     private static void appeals() throws IOException {
-        says("an APPEAL of two: half of what they OWE, cut, goes (2 COINS; they must OWE 2 or more)");
+        says("By hand: a WRONG is SENTENCED; an EVENING; an APPEAL of two: half of what they OWE, cut, goes (2 COINS; they"
+                + " must OWE 2 or more)");
         for (int grave = 1; grave <= 8; grave++) {
             CompanyCourt x = Check.owing("p;p;p;wg" + grave);
             due("of " + grave, x.appeal(1, 0), grave < 2 ? NONE : grave - grave / 2);
@@ -593,6 +594,20 @@ public final class ActBoundsTest {
             due("coins then", x.count(7), Math.max(0, coins - 1));
             due("lonely then", lonely(x, 1), coins < 1 ? 4 : 2);
         }
+        CompanyCourt now = Check.court("sc3;pl1;pl3");
+        due("of 1 and 3", now.lunch(0, 1), 0);
+        due("of 0 and 1", now.lunch(0, 1), 0);
+        due("both are 0 by now", now.lunch(0, 1), NONE);
+        due("nor the other way", now.lunch(1, 0), NONE);
+        due("one coin is left", now.count(7), 1);
+        due("two acts", now.count(12), 2);
+        CompanyCourt poor = Check.court("sc2;pl9;pl9");
+        due("the first coin", poor.lunch(0, 1), 7);
+        due("the last coin", poor.lunch(0, 1), 5);
+        due("no coin by now", poor.lunch(0, 1), NONE);
+        due("lonely still", lonely(poor, 0) + lonely(poor, 1), 10);
+        poor.give(1);
+        due("a coin again", poor.lunch(1, 0), 3);
         says("`int lunch(int one, int other)`: A LUNCH: LONELY of the first then. NONE: no such ones, alike, both are"
                 + " 0, too few COINS.");
         refusedTwo((y, one, other) -> y.lunch(one, other));
@@ -613,7 +628,26 @@ public final class ActBoundsTest {
             due("by " + coins + " coins", x.teach(0), coins < 3 ? NONE : 1);
             due("coins then", x.count(7), coins < 3 ? coins : coins - 3);
         }
+        CompanyCourt now = Check.court("p;pb2");
+        due("from 2", now.teach(1), 1);
+        due("from 1", now.teach(1), 0);
+        due("none by now", now.teach(1), NONE);
+        due("none still", Check.person(now, 1, 1), 0);
+        due("coins for two", now.count(7), 14);
+        due("two acts", now.count(12), 2);
+        CompanyCourt poor = Check.court("sc8;p;pb9");
+        due("five coins are left", poor.teach(1), 8);
+        due("two coins are left", poor.teach(1), 7);
+        due("too few by now", poor.teach(1), NONE);
+        due("coins still", poor.count(7), 2);
+        poor.give(1);
+        due("enough again", poor.teach(1), 6);
         says("`int teach(int person)`: TAUGHT: BORE then. NONE: no such one, none, too few COINS.");
+        CompanyCourt fewer = Check.court("pb9;pb9;pb9;pb9;pb9;pb9");
+        Check.text(fewer, 0, "p;p");
+        due("of a county of more", fewer.teach(2), NONE);
+        due("its last", fewer.teach(5), NONE);
+        due("no coin of it", fewer.count(7), 20);
         CompanyCourt x = Check.court("pb9;pb9;pb9");
         due("the last", x.teach(2), 8);
         due("one behind", x.teach(3), NONE);

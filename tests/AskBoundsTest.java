@@ -25,6 +25,7 @@ public final class AskBoundsTest {
         givens();
         graves();
         gravesAsTold();
+        gravesOfTwo();
         ask();
         crime();
         game();
@@ -99,7 +100,9 @@ public final class AskBoundsTest {
         CompanyCourt eight = Check.court("p;p;w;w;w;w;w;w;w;wg9");
         due("the eighth", eight.wrong(7, 2), 9);
         due("no ninth", eight.wrong(8, 2), NONE);
-        says("WORTH of a WRONG: EVENINGS it would be now.");
+        says("OWED of two. WORTH of a WRONG: EVENINGS it would be now.");
+        due("owed by the one SENTENCED", x.owed(0, 2), 11);
+        due("owed by the other one", x.owed(0, 1), 0);
         due("SENTENCED or not", x.wrong(1, 4), 11);
         x.lunch(0, 1);
         due("now", x.wrong(1, 4), 12);
@@ -115,6 +118,7 @@ public final class AskBoundsTest {
     private static void runs() throws IOException {
         says("RUN of a SESSION: behind how many STEPS the first is that can't be; how many WINDOWS are broken in it.");
         runsUpToWhatCannotBe();
+        runsFromStepToStep();
         says("`int run(int session, int what)`: RUN: behind how many (0; NONE: all can be), WINDOWS (1). HIDDEN: no"
                 + " such ones, no COUNTY.");
         String county = "sc8;pl9;pl8;p;w;wa1v2";
@@ -169,6 +173,54 @@ public final class AskBoundsTest {
         CompanyCourt y = Check.court("pl9;pl8");
         withSession(y, "e;s0;e");
         due("one window ahead of it", y.run(0, 1), 1);
+    }
+
+    /** What a step does in a run is done from where the run has come to, not from what is now. */
+    private static void runsFromStepToStep() {
+        CompanyCourt x = Check.court("sc99;p;p;w");
+        String[] sessions = {"s0;a01;a01;a01;a01;a01", "s0;p01;p01", "s0;a01;p01;p01", "s0;e;a01;a01;a01;a01"};
+        int[] want = {4, 2, 3, 5};
+        for (int i = 0; i < 4; i++) {
+            withSession(x, sessions[i]);
+            due("run of " + sessions[i], x.run(i, 0), want[i]);
+        }
+        CompanyCourt owing = Check.court("sc99;p;p;w");
+        owing.sentence(0);
+        withSession(owing, "a01;a01;a01;a01");
+        withSession(owing, "p01;p01");
+        withSession(owing, "a01;p01;a01");
+        withSession(owing, "e;e;e;e;e;e;p01;p01");
+        due("7, 4, 2, 1", owing.run(0, 0), 3);
+        due("7, 0", owing.run(1, 0), 1);
+        due("7, 4, 0", owing.run(2, 0), 2);
+        due("1, 0", owing.run(3, 0), 7);
+        due("owed as it is", owing.owed(0, 1), 7);
+        int[][] coins = {{1, 0}, {2, 1}, {3, 1}, {4, 2}, {5, 2}, {6, NONE}};
+        for (int[] c : coins) {
+            CompanyCourt y = Check.court("sm30c" + c[0] + ";p;p;wg9");
+            y.sentence(0);
+            withSession(y, "a01;a01;a01");
+            due("appeals by " + c[0] + " coins", y.run(0, 0), c[1]);
+            due("coins as they are", y.count(7), c[0]);
+        }
+        CompanyCourt pardons = Check.court("sc7;p;p;p;w;wv2");
+        withSession(pardons, "s0;s1;p01;p02");
+        due("pardons by 7 coins", pardons.run(0, 0), 3);
+        CompanyCourt again = Check.court("sc8;p;p;p;w;wv2");
+        withSession(again, "s0;s1;p01;p02");
+        due("pardons by 8 coins", again.run(0, 0), NONE);
+        String[] laws = {"y:d+1", "y:n+1", "y:l-3"};
+        String[] after = {"e;s0;a01", "s1;s0;a02", "e;s0;a01"};
+        for (int i = 0; i < 3; i++) {
+            CompanyCourt y = new CompanyCourt();
+            Check.text(y, 1, laws[i]);
+            y.law(0);
+            Check.text(y, 0, "p;p;p;w;wv2;wv2");
+            withSession(y, "s0;a01");
+            withSession(y, i == 1 ? "s1;s2;a02" : after[i]);
+            due("worth 1 at once by " + laws[i], y.run(0, 0), 1);
+            due("worth 2 by then, by " + laws[i], y.run(1, 0), NONE);
+        }
     }
 
     private static int twinWindows(CompanyCourt twin) {
@@ -232,7 +284,7 @@ public final class AskBoundsTest {
     }
 
     private static void tonight() throws IOException {
-        says("rows of digits by PERSONS (with whom each SITS, 9 alone; the first the highest)");
+        says("TONIGHT: rows of digits by PERSONS (with whom each SITS, 9 alone; the first the highest)");
         due("two alone", Check.court("p;p").tonight(), 99);
         due("two", Check.owing("p;p;w").tonight(), 10);
         due("six alone", Check.court("p;p;p;p;p;p").tonight(), 999999);
@@ -319,7 +371,7 @@ public final class AskBoundsTest {
         due("five of six with the first", Check.owing("p;p;p;p;p;p;wa0v2g4;wa2v3g4;wa3v4g4;wa4v5g4;wa5v0g5").sooner(), 11);
         due("six are no five", Check.owing("p;p;p;p;p;p;wg4;wa1v2g4;wa2v3g4;wa3v4g4;wa4v5g4;wa5v0g4").sooner(), 8);
         due("four are no three", Check.owing("p;p;p;p;wg4;wa1v2g4;wa2v3g4;wa3v0g4").sooner(), 8);
-        says("by how many EVENINGS at least all that is OWED now could be served, were there no WINDOWS");
+        says("SOONER: by how many EVENINGS at least all that is OWED now could be served, were there no WINDOWS");
         due("windows ahead", Check.owing("p;p;pl9;wg2").sooner(), 2);
         due("99", Check.owing("p;p;wg9;wg9;wg9;wg9").sooner(), 99);
         says("`int sooner()`: SOONER. NONE: no COUNTY.");
@@ -349,6 +401,15 @@ public final class AskBoundsTest {
         due("not who owes most", Check.owing("pl1;pl1;pl2;wg9;wa1v2g1").matched(0), 921);
         due("not the first that is", Check.owing("pl1;pl9;pl9;pl1;w;wa1v2;wa0v3").matched(0), 3210);
         due("all of six", Check.owing("pl9;pl9;pl9;pl9;pl9;pl9;w;wa2v3;wa4v5").matched(1), 54);
+        CompanyCourt now = Check.owing("pl5;pl6;pl7;pl0;w;wa1v2");
+        due("the second and the third", now.matched(0), 9219);
+        due("13 together", now.matched(1), 13);
+        now.lunch(2, 3);
+        due("the first and the second now", now.matched(0), 1099);
+        due("11 together now", now.matched(1), 11);
+        now.evening();
+        due("behind an evening", now.matched(0), 9219);
+        due("11 together then", now.matched(1), 5 + 6);
     }
 
     private static void matchedOfSeveral() throws IOException {
@@ -359,7 +420,7 @@ public final class AskBoundsTest {
         Check.text(again, 0, "p;p;p;p;p;p;wa5v4");
         again.sentence(0);
         due("of a third county", again.matched(0), 999954);
-        says("(of several the least row; who could SIT may be left alone)");
+        says("(of several the least row; who could SIT may be left alone): the row; how much.");
         due("all alike", Check.owing("pl3;pl3;pl3;w;wa1v2;wa2v0").matched(0), 109);
         due("all of four", Check.owing("pl3;pl3;pl3;pl3;w;wa1v2;wa2v3;wa3v0").matched(0), 1032);
         due("of two alike", Check.owing("pl3;pl3;pl3;pl3;wa1v2;wa2v3;wa3v0;wa0v2").matched(0), 3210);
@@ -406,8 +467,23 @@ public final class AskBoundsTest {
         due("from -9", Check.court("pl0b0;pl0b9").game(0, 1, 1, 1, 0), -9 - 3);
         due("to 9", Check.court("pl9b9;pl9b0").game(0, 1, 1, 1, 0), 9 - 3);
         due("of the one, not of the other", Check.court("pl7b1;pl2b4").game(0, 1, 1, 1, 0), 7 - 4 - 3);
+        CompanyCourt now = Check.court("pl3b3;pl3b4");
+        due("at first", now.game(0, 1, 1, 0, 0) * 10 + now.game(0, 1, 1, 0, 1), 12);
+        due("they don't sit", now.firm(0), 99);
+        now.teach(1);
+        due("a bore as now", now.game(0, 1, 1, 0, 0), 2);
+        due("they may sit", now.firm(0), 10);
+        due("both rows", now.firm(NONE), 2);
+        now.lunch(0, 1);
+        due("lonely as now", now.game(0, 1, 1, 0, 0) * 10 + now.game(0, 1, 1, 0, 1), 0);
+        due("they don't sit now", now.firm(0), 99);
+        due("one row", now.firm(NONE), 1);
+        Check.pass(now, 4);
+        due("lonelier", now.game(0, 1, 1, 0, 0), 5 - 3 + 2);
+        due("they sit", now.firm(0), 10);
+        due("they alone", now.firm(NONE), 1);
         says("nobody SITS with one for whom his LIKING is below 0 and no two who do not SIT together both have more"
-                + " LIKING for one another than for whom they SIT with (alone: 0)");
+                + " LIKING for one another than for whom they SIT with (alone: 0): how many, the i-th (rising).");
         firm("pl0b0;pl1b0", 10, 99);
         firm("pl1b0;pl1b0", 10);
         firm("pl0b0;pl0b1", 99);
@@ -434,7 +510,7 @@ public final class AskBoundsTest {
         Check.text(x, 0, "pl0b0;pl0b0;pl0b0");
         due("of a third county", x.firm(NONE), 4);
         due("of a third county", x.firm(3), 999);
-        says("(anybody may SIT with anybody, 9 alone)");
+        says("FIRM: rows of digits as for TONIGHT (anybody may SIT with anybody, 9 alone) by which");
         due("owed or not", Check.court("pl5b1;pl5b2").firm(0), 10);
         due("owed or not", Check.owing("pl5b1;pl5b2;w").firm(0), 10);
     }
@@ -487,7 +563,7 @@ public final class AskBoundsTest {
     }
 
     private static void graves() throws IOException {
-        says("how GRAVE (1 .. 9) it may be so that all GIVEN of it is so: how many, the i-th (rising)");
+        says("GRAVES of a WRONG: how GRAVE (1 .. 9) it may be so that all GIVEN of it is so: how many, the i-th (rising)");
         for (int n = 1; n <= 30; n++) {
             CompanyCourt more = byGrave();
             more.given(0, n, true);
@@ -551,8 +627,47 @@ public final class AskBoundsTest {
         }
     }
 
+    /** Each wrong is weighed by its own two: how hard who did it is, how lonely and how much of a bore the victim was. */
+    private static void gravesOfTwo() throws IOException {
+        says("(as told, nothing SENTENCED, EVENING 0)");
+        String county = "sm30;pl1b2h3;pl4b5h6;pl7b8h0;w;wa1v0;wa1v2;wa2v1";
+        String[] laws = {"y:g+h", "y:g+l", "y:g+b"};
+        int[][] more = {{3, 6, 6, 0}, {4, 1, 7, 4}, {5, 2, 8, 5}};
+        for (int i = 0; i < 3; i++) {
+            CompanyCourt x = new CompanyCourt();
+            Check.text(x, 1, laws[i]);
+            x.law(0);
+            Check.text(x, 0, county);
+            for (int wrong = 0; wrong < 4; wrong++) {
+                x.given(wrong, 6, true);
+                x.given(wrong, 11, false);
+                int least = Math.max(1, 6 - more[i][wrong]);
+                int most = Math.min(9, 10 - more[i][wrong]);
+                int many = Math.max(0, most - least + 1);
+                due("graves of " + wrong + " by " + laws[i], x.graves(wrong, NONE), many);
+                due("the first", x.graves(wrong, 0), least);
+                due("the last", x.graves(wrong, many - 1), most);
+                due("ask", x.ask(wrong), many == 1 ? 1 : least + more[i][wrong] + (many + 1) / 2 - (many % 2));
+            }
+        }
+        CompanyCourt x = Check.court("p;p;p;wa2v1");
+        Check.text(x, 0, county);
+        int[] least = {1, 1, 1, 4};
+        int[] halves = {3 - 2, 6, 6 - 3, 0 - 2};
+        for (int wrong = 0; wrong < 4; wrong++) {
+            int first = 0;
+            for (int grave = 9; grave >= 1; grave--) {
+                first = Math.max(1, 2 * grave + halves[wrong]) >= 6 ? grave : first;
+            }
+            x.given(wrong, 6, true);
+            due("by no law, of " + wrong, x.graves(wrong, 0), first);
+            due("as many", x.graves(wrong, NONE), 10 - first);
+        }
+        due("the last needs most", x.graves(3, 0), least[3]);
+    }
+
     private static void ask() throws IOException {
-        says("the n (1 .. 30) for which n or more and less are least apart in number among these (of several the"
+        says("ASK of a WRONG: the n (1 .. 30) for which n or more and less are least apart in number among these (of several the"
                 + " least)");
         int[][] bounds = {{1, 10, 5}, {1, 9, 5}, {1, 2, 1}, {1, 3, 2}, {9, 10, 1}, {8, 10, 9}, {7, 10, 8}, {6, 10, 8}};
         for (int[] b : bounds) {
@@ -624,7 +739,7 @@ public final class AskBoundsTest {
     // ---- promises 33 to 35
 
     private static void game() throws IOException {
-        says("LIKING for whom he names (himself, one that there is not: -9), 3 less, if both name the same one, 2"
+        says("what one has: LIKING for whom he names (himself, one that there is not: -9), 3 less, if both name the same one, 2"
                 + " more, if they name one another");
         String county = "pl9b1;pl6b3;pl4b7;pl2b9";
         int[] lonely = {9, 6, 4, 2};
@@ -648,7 +763,7 @@ public final class AskBoundsTest {
                 }
             }
         }
-        says("x, y whom each names (0 .. 5)");
+        says("GAME of two: x, y whom each names (0 .. 5)");
         int[] names = {Integer.MIN_VALUE, -1, 6, Integer.MAX_VALUE};
         for (int n : names) {
             due("x " + n, courts[12].game(0, 1, n, 0, 0), HIDDEN);
@@ -681,7 +796,7 @@ public final class AskBoundsTest {
     }
 
     private static void rests() throws IOException {
-        says("10 times x and y (PERSONS there are) by which neither has more by another of his own: how many, the i-th"
+        says("RESTS: 10 times x and y (PERSONS there are) by which neither has more by another of his own: how many, the i-th"
                 + " (rising)");
         // Of two: one another, or each himself where nobody is liked more than -9 and 3 less.
         rests("pl9b0;pl9b0", 10);
@@ -692,6 +807,9 @@ public final class AskBoundsTest {
         rests("pl5b5;pl5b5;pl5b0;pl5b4", 22);
         rests("pl5b5;pl5b5;pl5b2;pl5b9", 12, 20, 22);
         rests("pl5b5;pl5b5;pl5b3;pl5b9", 10, 12, 20);
+        rests("pl5b5;pl5b5;pl5b4;pl5b9", 10);
+        rests("pl5b5;pl5b4;pl5b3;pl5b9", 10, 12);
+        rests("pl5b4;pl5b5;pl5b3;pl5b9", 10, 20);
         rests("pl5b5;pl5b5;pl5b1;pl5b9", 22);
         rests("pl5b9;pl5b9;pl5b9;pl5b9;pl5b0;pl5b0", 45, 54);
         CompanyCourt x = Check.court("pl5b5;pl5b5;pl5b0;pl5b1");
@@ -795,6 +913,19 @@ public final class AskBoundsTest {
                 due("each another one, " + what, x.all(what), (what + 4 - turn) % 4);
             }
         }
+        CompanyCourt now = Check.court("pl6b4;pl5b3;pl4b2");
+        now.lunch(0, 2);
+        now.teach(0);
+        now.teach(0);
+        due("the loneliest now", now.all(0), 1);
+        due("the bore now", now.all(1), 1);
+        now.teach(1);
+        due("of several the lowest now", now.all(1), 0);
+        now.lunch(1, 0);
+        due("of two now", now.all(0), 1);
+        now.undo();
+        now.lunch(1, 2);
+        due("the first again", now.all(0), 0);
         CompanyCourt six = Check.court("pl9b9h0;p;p;p;p;pl0b9h9");
         due("the loneliest", six.all(0), 0);
         due("the bore", six.all(1), 0);
@@ -837,7 +968,14 @@ public final class AskBoundsTest {
             z.evening();
             due("windows at " + evening, z.all(7), evening < 10 ? 0 : 2 + 2 * ((evening - 10) / 9));
         }
-        says("FREE (6, bits), WINDOWS (7), NEVER (8, bits), PARTY (9). NONE: no COUNTY, no such what.");
+        says("LONELIEST (0), BORE (1), HARDEST (2), GUILTIEST (3), DUE (4, bits), ALL (5), FREE (6, bits), WINDOWS (7), NEVER"
+                + " (8, bits), PARTY (9). NONE: no COUNTY, no such what.");
+        CompanyCourt ten = Check.owing("pl4;pl8;pb9;ph9;p;p;wa4v5g5;w");
+        ten.undo();
+        int[] answers = {1, 2, 3, 4, 2, 5, 15, 0, 0, 2};
+        for (int what = 0; what < 10; what++) {
+            due("all " + what, ten.all(what), answers[what]);
+        }
         CompanyCourt two = Check.court("p;p");
         due("what 10", two.all(10), NONE);
         for (int n : WILD) {
@@ -915,6 +1053,12 @@ public final class AskBoundsTest {
         due("but he is out of the circle", x.circle(5, 2), 17);
         due("person 6", x.circle(6, 0), NONE);
         due("what 3", x.circle(0, 3), NONE);
+        for (int n : WILD) {
+            due("person " + n, x.circle(n, 0), NONE);
+            due("what " + n, x.circle(0, n), NONE);
+        }
+        due("no county", new CompanyCourt().circle(0, 0), NONE);
+        says("WRONGS of one, against one: bits.");
         CompanyCourt none = Check.court("p;p");
         due("no wrongs", none.circle(0, 0) + none.circle(0, 1) + none.circle(1, 0) + none.circle(1, 1), 0);
         for (int who = 0; who < 6; who++) {
@@ -924,11 +1068,23 @@ public final class AskBoundsTest {
                 }
             }
         }
-        for (int n : WILD) {
-            due("person " + n, x.circle(n, 0), NONE);
-            due("what " + n, x.circle(0, n), NONE);
+        CompanyCourt eight = Check.court("p;p;wa1v0;w;wa1v0;w;wa1v0;w;wa1v0;w");
+        due("each other wrong", eight.circle(1, 0), 85);
+        due("the others against him", eight.circle(1, 1), 170);
+        eight.sentence(0);
+        due("SENTENCED or not", eight.circle(1, 0), 85);
+        says("CIRCLE of one: PERSONS (bits) to whom one OWES any.");
+        due("of the one", eight.circle(1, 2), 1);
+        due("of the other one", eight.circle(0, 2), 2);
+        due("nobody owes", none.circle(0, 2) + none.circle(1, 2), 0);
+        CompanyCourt all = Check.court("pl0;pl0;pl9;pl0;pl0;pl0");
+        all.evening();
+        for (int person = 0; person < 6; person++) {
+            due("circle of " + person + " behind a window", all.circle(person, 2), person == 2 ? 59 : 4);
         }
-        due("no county", new CompanyCourt().circle(0, 0), NONE);
+        all.pardon(2, 4);
+        due("but whom he is pardoned", all.circle(2, 2), 43);
+        due("nor the other one", all.circle(4, 2), 0);
     }
 
     /** All that is told of one wrong by one against another, who alone owe then. */
@@ -943,8 +1099,9 @@ public final class AskBoundsTest {
     }
 
     private static void counts() throws IOException {
-        says("8 the most EVENINGS for a WRONG (0: no COUNTY), 9 SIN, 10 GIVEN, 11 how long the LOG is, 12 ACTS that"
-                + " can be UNDONE. HIDDEN for others.");
+        says("0 PERSONS, 1 WRONGS, 2 LAWS, 3 SESSIONS, 4 bytes of the TAPE, 5 the LAW that holds (NONE), 6 the EVENING, 7"
+                + " COINS, 8 the most EVENINGS for a WRONG (0: no COUNTY), 9 SIN, 10 GIVEN, 11 how long the LOG is, 12"
+                + " ACTS that can be UNDONE. HIDDEN for others.");
         int[] empty = {0, 0, 0, 0, 0, NONE, 0, 0, 0, 3, 0, 0, 0};
         CompanyCourt x = new CompanyCourt();
         for (int i = 0; i < 13; i++) {

@@ -65,9 +65,9 @@ public final class TextBoundsTest {
     }
 
     private static void constants() throws IOException {
-        says("`NONE = -1`");
+        says("The constants: `NONE = -1`: None; refused.");
         due("NONE", NONE, -1);
-        says("`HIDDEN = -1000000`");
+        says("`HIDDEN = -1000000`: Not told.");
         due("HIDDEN", HIDDEN, -1000000);
         says("`CompanyCourt()`: No COUNTY.");
         CompanyCourt x = new CompanyCourt();
@@ -104,7 +104,7 @@ public final class TextBoundsTest {
         due("the first", Check.person(x, 0, 0) * 100 + Check.person(x, 0, 1) * 10 + Check.person(x, 0, 2), 123);
         due("the second", Check.person(x, 1, 0) * 100 + Check.person(x, 1, 1) * 10 + Check.person(x, 1, 2), 456);
         due("the wrong", x.wrong(0, 2), 7);
-        says("of each number the highest first; bytes of 0 are left out");
+        says("(of each number the highest first; bytes of 0 are left out): how many it has.");
         for (int place = 0; place < 5; place++) {
             CompanyCourt y = new CompanyCourt();
             due("highest first", feedOne(y, place, 0x703B7020), 4);
@@ -209,7 +209,7 @@ public final class TextBoundsTest {
         due("by their order", Check.court("wa1v0;pl1;sm3;w;pl2").wrong(0, 0), 1);
         fault(COUNTY, "s;p;p;p;p;p;p;w;w;w;w;w;w;w;w", NONE);
         fault(COUNTY, "w;w;w;w;w;w;w;w;p;p;p;p;p;p;s", NONE);
-        says("CLAUSES with ; between");
+        says("A COUNTY is a TEXT: CLAUSES with ; between");
         fault(COUNTY, "pp", 1);
         fault(COUNTY, "p,p", 1);
         fault(COUNTY, ";p;p", 0);
@@ -270,7 +270,7 @@ public final class TextBoundsTest {
     }
 
     private static void numbersOfRules() throws IOException {
-        says("m the most EVENINGS for a WRONG (1 .. 30; 20 without)");
+        says("of s: m the most EVENINGS for a WRONG (1 .. 30; 20 without)");
         item("sm", ";p;p", 1, 30, 20, x -> x.count(8));
         item("p;sc3m", ";p;w", 1, 30, 20, x -> x.count(8));
         due("no rules", Check.court("p;p").count(8), 20);
@@ -281,7 +281,7 @@ public final class TextBoundsTest {
     }
 
     private static void numbersOfPersons() throws IOException {
-        says("l how LONELY (0 .. 9; 4)");
+        says("of p: l how LONELY (0 .. 9; 4)");
         item("pl", ";p", 0, 9, 4, x -> Check.person(x, 0, 0));
         item("p;ph3l", "b4", 0, 9, 4, x -> Check.person(x, 1, 0));
         says("b how much of a BORE (0 .. 9; 2)");
@@ -293,7 +293,7 @@ public final class TextBoundsTest {
     }
 
     private static void numbersOfWrongs() throws IOException {
-        says("a who did it, v to whom (0 .. 5 each; 0, 1)");
+        says("of w: a who did it, v to whom (0 .. 5 each; 0, 1)");
         for (int who = 0; who < 6; who++) {
             for (int whom = 0; whom < 6; whom++) {
                 String text = "p;p;p;p;p;p;wa" + who + "v" + whom;
@@ -319,7 +319,7 @@ public final class TextBoundsTest {
     // ---- laws and sessions
 
     private static void howManyTexts() throws IOException {
-        says("LAWS (4 at most)");
+        says("LAWS (4 at most) are TEXTS");
         CompanyCourt x = new CompanyCourt();
         for (int i = 0; i < 6; i++) {
             due("law", Check.text(x, LAW, "y:" + (i + 1)), i < 4 ? i : NONE);
@@ -393,6 +393,13 @@ public final class TextBoundsTest {
         fault(LAW, "y:(g=1", 6);
         fault(LAW, "y:g=1)?1", 5);
         fault(LAW, "y:=1?1", 2);
+        fault(LAW, "y:(=1)?1", 3);
+        fault(LAW, "y:!=1?1", 3);
+        fault(LAW, "y:!!<1?1", 4);
+        fault(LAW, "y:g=1&=1?1", 6);
+        fault(LAW, "y:g=1|>1?1", 6);
+        fault(LAW, "y:g=1&(h=1|<1)?1", 11);
+        fault(LAW, "y:g+=1?1", 4);
         fault(LAW, "y:g=?1", 4);
         fault(LAW, "y:g=1=1?1", 5);
         fault(LAW, "y:g<=1?1", 4);
@@ -450,6 +457,18 @@ public final class TextBoundsTest {
         fault(LAW, "y:!!!!!!g=[g]?1", 10);
         fault(LAW, "y:!!!!!!(g=1)?1", 8);
         fault(LAW, "y:((((((!g=1))))))?1", 8);
+        String[] sevenths = {"[g]=1", "1=[g]", "!g=1", "(g=1)", "g+[1]=1", "1<g*[1]"};
+        int[] places = {0, 2, 0, 0, 2, 4};
+        String[] aheads = {"g=1&", "g=1|", "g=1&h=1&", "g=1|h=1|", "g=1&h=1|", "g=1|h=1&", "1+1<2*2&"};
+        for (int i = 0; i < sevenths.length; i++) {
+            for (String ahead : aheads) {
+                fault(LAW, "y:((((((" + ahead + sevenths[i] + "))))))?1", 8 + ahead.length() + places[i]);
+                fault(LAW, "y:(((((" + ahead + sevenths[i] + ")))))?1", NONE);
+                fault(LAW, "y:!!!!!(" + ahead + sevenths[i] + ")?1", 8 + ahead.length() + places[i]);
+                fault(LAW, "y:!!!!(" + ahead + sevenths[i] + ")?1", NONE);
+                fault(LAW, "y:!!!!!!" + ahead + sevenths[i] + "?1", NONE);
+            }
+        }
         says("within one another");
         fault(LAW, "y:" + times(9, "[g]", "+"), NONE);
         fault(LAW, "y:" + times(9, "(g=1)", "&") + "?1", NONE);
@@ -515,7 +534,7 @@ public final class TextBoundsTest {
     }
 
     private static void firstClause() throws IOException {
-        says("the SUM of the first CLAUSE whose CONDITION holds (or has none), 0 without");
+        says("WORTH of a LAW: the SUM of the first CLAUSE whose CONDITION holds (or has none), 0 without");
         worth("y:g=9?11", 11);
         worth("y:g=9?11;y:12", 11);
         worth("y:g=8?11;y:12", 12);
@@ -542,8 +561,10 @@ public final class TextBoundsTest {
 
     private static void truths() throws IOException {
         says("CONDITION: TRUTHS with | between; TRUTH: UNITS with & between; UNIT: ! UNIT, ( CONDITION )");
-        String[] holding = {"g=9", "g<10", "g>8", "!g=8", "!g<9", "!g>9", "(g=9)", "!!g<10", "!!g>8", "!(g<9|g>9)"};
-        String[] failing = {"g=8", "g<9", "g>9", "!g=9", "!g<10", "!g>8", "(g=8)", "!!g<9", "!!g>9", "!(g<10&g>8)"};
+        String[] holding = {"g=9", "g<10", "g>8", "!g=8", "!g<9", "!g>9", "(g=9)", "!!g<10", "!!g>8", "!(g<9|g>9)",
+            "!g<8", "!g>10", "1-2<0"};
+        String[] failing = {"g=8", "g<9", "g>9", "!g=9", "!g<10", "!g>8", "(g=8)", "!!g<9", "!!g>9", "!(g<10&g>8)",
+            "g<8", "g>10", "0<1-2"};
         for (int i = 0; i < holding.length; i++) {
             for (int k = 0; k < holding.length; k++) {
                 truth(holding[i] + "&" + holding[k], true);
@@ -674,6 +695,15 @@ public final class TextBoundsTest {
             fault(COUNTY, text + " ", text.length() + 1);
             due("no county", Check.text(new CompanyCourt(), COUNTY, text), NONE);
         }
+        for (int bad = 0; bad < 4; bad++) {
+            String[] wrongs = {"w", "w", "w", "w"};
+            String[] kinds = {"wa2", "wv2", "wa1", "wv0"};
+            for (String kind : kinds) {
+                wrongs[bad] = kind;
+                String text = "p;p;" + String.join(";", wrongs);
+                fault(COUNTY, text, text.length());
+            }
+        }
         String[] ofSomebody = {"p;p;wa1v0", "wa2v1;p;p;p", "wv2;p;p;p", "p;p;p;p;p;p;wa5v0", "p;p;p;p;p;p;wv5"};
         for (String text : ofSomebody) {
             fault(COUNTY, text, NONE);
@@ -791,8 +821,8 @@ public final class TextBoundsTest {
         }
         due("a county behind them", Check.text(numbers, COUNTY, "p;p"), 2);
         due("the tape is empty", numbers.count(4), 0);
-        says("EVENING 0, nothing OWED or SENTENCED; all that was of another one, GIVEN, too, is gone but LAWS, which"
-                + " holds, SESSIONS, SIN");
+        says("The TAPE (empty then) is the COUNTY (EVENING 0, nothing OWED or SENTENCED; all that was of another one,"
+                + " GIVEN, too, is gone but LAWS, which holds, SESSIONS, SIN)");
         CompanyCourt x = busy();
         Check.text(x, COUNTY, "p;p;w;w;w");
         int[] counts = {2, 3, 2, 1, 0, 1, 0, 20, 20, 8, 0, 0, 0};
