@@ -21,8 +21,12 @@ public final class RulesTest {
 
     public static void main(String[] args) throws Exception {
         face();
+        faceToTheLetter();
         members();
         words();
+        Bytecode bytecode = new Bytecode(CompanyCourt.class);
+        library(bytecode);
+        callsDeep(bytecode);
         lengths();
         roomOfAnObject();
         roomOfCalls();
@@ -60,6 +64,57 @@ public final class RulesTest {
         System.out.println(got.equals(want) ? "the face is as due" : "face: " + got + " due: " + want);
         CHECK.due("the face", got.equals(want), true);
         CHECK.due("its methods", want.size(), 39);
+    }
+
+    /** The constructor, the constants and the methods as the document writes them, parameters' names and all. */
+    private static void faceToTheLetter() throws Exception {
+        String document = Files.readString(DOC);
+        String source = Files.readString(SOURCE);
+        int from = document.indexOf("public final class CompanyCourt {");
+        int to = document.indexOf("\n}", from);
+        CHECK.due("the document's face", from > 0 && to > from, true);
+        CHECK.due("its class", source.contains("public final class CompanyCourt {"), true);
+        int lines = 0;
+        for (String line : document.substring(from, to).split("\n")) {
+            if (line.startsWith("    public ")) {
+                String head = line.substring(0, line.length() - 1);
+                CHECK.due(head.trim(), source.contains("\n" + head + (head.contains("=") ? ";" : " {")), true);
+                lines++;
+            }
+        }
+        CHECK.due("constants, a constructor, methods", lines, 2 + 1 + 39);
+        CHECK.due("constructors", CompanyCourt.class.getDeclaredConstructors().length, 1);
+        CHECK.due("its parameters", CompanyCourt.class.getDeclaredConstructors()[0].getParameterCount(), 0);
+        CHECK.due("interfaces", CompanyCourt.class.getInterfaces().length, 0);
+        CHECK.due("no class above it", CompanyCourt.class.getSuperclass() == Object.class, true);
+        for (String name : List.of("NONE", "HIDDEN")) {
+            Field f = CompanyCourt.class.getDeclaredField(name);
+            CHECK.due(name, f.getModifiers(), Modifier.PUBLIC | Modifier.STATIC | Modifier.FINAL);
+            CHECK.due(name + " is an int", f.getType() == int.class, true);
+        }
+    }
+
+    /** Rule 4: what is called of the library, and nothing is called by way of a lambda or of joined texts. */
+    private static void library(Bytecode bytecode) {
+        List<String> lent = List.of("java/lang/Object.<init>", "java/lang/Math.min", "java/lang/Math.max",
+                "java/lang/Math.abs", "java/lang/Integer.bitCount", "java/util/NoSuchElementException.<init>");
+        for (String call : bytecode.outside) {
+            CHECK.due("library: " + call, lent.contains(call), true);
+        }
+        CHECK.due("there are such calls", bytecode.outside.size() >= 4, true);
+        CHECK.due("calls by other ways", bytecode.dynamic, 0);
+        CHECK.due("catches", bytecode.catches, 0);
+    }
+
+    /** Rule 11: calls that are no recursion go at most eight deep, methods that call one another counted once. */
+    private static void callsDeep(Bytecode bytecode) {
+        int deepest = 0;
+        for (String method : bytecode.methods()) {
+            int deep = bytecode.depth(method);
+            deepest = Math.max(deepest, deep);
+            CHECK.due("calls behind " + method + " go at most eight deep", deep <= 8, true);
+        }
+        CHECK.due("some calls go deep", deepest > 4, true);
     }
 
     private static void members() {
