@@ -868,6 +868,12 @@ public final class AskBoundsTest {
         due("the first", y.odds(0, 1, 30), 300000000);
         due("the second", y.odds(1, 1, 30), 300000000);
         due("the third, whoever is in bed", y.odds(2, 1, 30), 1000000000);
+        // The others sit as if he were not there, whichever number he has: by that they owe less the next evening.
+        String[] passed = {"pl8;pl4;pl4;wa1v2g3;wg3", "pl4;pl8;pl4;wa0v2g3;wa1v2g3", "pl4;pl4;pl8;wg3;wa1v2g3"};
+        int[] odds = {250000000, 500000000, 500000000};
+        for (int i = 0; i < 3; i++) {
+            due("of the person " + i, Check.owing(passed[i]).odds(i, 2, 50), odds[i]);
+        }
         says("those by which he breaks a WINDOW in one or more of them");
         due("in bed ahead of the first or twice later", Check.owing("pl9;pl9;wg9").odds(0, 3, 30), 300000000 + 63000000);
         due("in bed always", Check.owing("pl4;pl4;wg9").odds(0, 6, 100), 1000000000);

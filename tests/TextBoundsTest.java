@@ -30,6 +30,7 @@ public final class TextBoundsTest {
         truths();
         stepsOfSessions();
         blanks();
+        eachByte();
         faultsOfLength();
         faultsOfNumbers();
         faultsOfSignsThereWere();
@@ -665,9 +666,96 @@ public final class TextBoundsTest {
         fault(SESSION, "   ", 3);
         fault(COUNTY, "p;p" + times(237, " ", ""), NONE);
         fault(COUNTY, "p;" + times(238, " ", ""), 240);
+        for (int sort = 0; sort < 3; sort++) {
+            fault(sort, times(239, " ", ""), 239);
+            fault(sort, times(240, " ", ""), 240);
+            fault(sort, times(239, " ", "") + "x", 239);
+        }
+        fault(LAW, times(237, " ", "") + "y:g", NONE);
+        fault(LAW, "y" + times(237, " ", "") + ":g", NONE);
+        fault(SESSION, times(239, " ", "") + "e", NONE);
+        fault(SESSION, "e" + times(239, " ", ""), NONE);
+        fault(SESSION, "e" + times(238, " ", "") + ";", 240);
     }
 
     // ---- faults
+
+    /** Behind a text that can go on, any byte but these is itself the fault. */
+    private static void goesOn(int sort, String text, String next) {
+        for (char c = 1; c < 256; c++) {
+            int fault = Check.fault(sort, text + c);
+            boolean may = next.indexOf(c) >= 0 || c == ' ';
+            due("'" + c + "' (" + (int) c + ") is the fault behind '" + text + "'", fault == text.length(), !may);
+            if (may) {
+                due("'" + c + "' is none behind '" + text + "'", fault == NONE || fault == text.length() + 1, true);
+            }
+        }
+    }
+
+    private static void eachByte() throws IOException {
+        says("FAULT: the first byte at which no such TEXT can go on");
+        String digits = "0123456789";
+        goesOn(COUNTY, "", "spw");
+        goesOn(COUNTY, "s", ";mc");
+        goesOn(COUNTY, "p", ";lbh");
+        goesOn(COUNTY, "w", ";avg");
+        goesOn(COUNTY, "p;", "spw");
+        goesOn(COUNTY, "p;s;", "pw");
+        goesOn(COUNTY, "p;p;p;p;p;p;", "sw");
+        goesOn(COUNTY, "w;w;w;w;w;w;w;w;", "sp");
+        goesOn(COUNTY, "p;p", ";lbh");
+        goesOn(COUNTY, "pl", digits);
+        goesOn(COUNTY, "sm", "123456789");
+        goesOn(COUNTY, "sm1", ";c" + digits);
+        goesOn(COUNTY, "sm2", ";c" + digits);
+        goesOn(COUNTY, "sm3", ";c0");
+        goesOn(COUNTY, "sc9", ";m" + digits);
+        goesOn(COUNTY, "pl0", ";bh" + digits);
+        goesOn(COUNTY, "pl1", ";bh");
+        goesOn(COUNTY, "pl01", ";bh");
+        goesOn(COUNTY, "pl1b2", ";h");
+        goesOn(COUNTY, "pl1b2h3", ";");
+        goesOn(COUNTY, "wa", "012345");
+        goesOn(COUNTY, "wa0", ";vg012345");
+        goesOn(COUNTY, "wg", "123456789");
+        goesOn(COUNTY, "p ", ";lbh");
+        goesOn(LAW, "", "y");
+        goesOn(LAW, "y", ":");
+        goesOn(LAW, "y:", "ghlbnd[!(" + digits);
+        String atom = "ghlbnd[" + digits;
+        goesOn(LAW, "y:g", "+-*/=<>;");
+        goesOn(LAW, "y:123", "+-*/=<>;" + digits);
+        goesOn(LAW, "y:1234", "+-*/=<>;");
+        goesOn(LAW, "y:1 ", "+-*/=<>;");
+        for (String sign : new String[] {"+", "-", "*", "/", "=", "<", ">", "[", "=1?"}) {
+            goesOn(LAW, "y:" + (sign.equals("[") ? "" : "g") + sign, atom);
+        }
+        goesOn(LAW, "y:g=h", "+-*/&|?");
+        goesOn(LAW, "y:g=1&h<2", "+-*/&|?" + digits);
+        goesOn(LAW, "y:g=1|h<[2]", "+-*/&|?");
+        for (String ahead : new String[] {"g=1&", "g=1|", "!", "(", "!(", "(g=1&", "(g=1|"}) {
+            goesOn(LAW, "y:" + ahead, atom + "!(");
+            goesOn(LAW, "y:" + ahead + "h", "+-*/=<>");
+        }
+        goesOn(LAW, "y:(g=h", "+-*/&|)");
+        goesOn(LAW, "y:(g=h)", "&|?");
+        goesOn(LAW, "y:!g=h", "+-*/&|?");
+        goesOn(LAW, "y:[g", "+-*/]");
+        goesOn(LAW, "y:[g]", "+-*/=<>;");
+        goesOn(LAW, "y:g=[h", "+-*/]");
+        goesOn(LAW, "y:g=h?l", "+-*/;");
+        goesOn(LAW, "y:g=h?[l]", "+-*/;");
+        goesOn(LAW, "y:g;", "y");
+        goesOn(SESSION, "", "seap");
+        goesOn(SESSION, "s", digits);
+        goesOn(SESSION, "s1", ";");
+        goesOn(SESSION, "e", ";");
+        goesOn(SESSION, "a", digits);
+        goesOn(SESSION, "a1", digits);
+        goesOn(SESSION, "p12", ";");
+        goesOn(SESSION, "e;", "seap");
+        goesOn(SESSION, times(16, "e", ";"), "");
+    }
 
     private static void faultsOfLength() throws IOException {
         says("FAULT: the first byte at which no such TEXT can go on (the length, if it ends too early, with fewer than"
